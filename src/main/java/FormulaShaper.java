@@ -400,12 +400,10 @@ public final class FormulaShaper {
             this.right = right;
         }
 
-        @Override
         int ofRows(int span) {
             return Span.copied(span, down, ROWS);
         }
 
-        @Override
         int ofColumns(int span) {
             return Span.copied(span, right, COLUMNS);
         }
@@ -423,12 +421,10 @@ public final class FormulaShaper {
             this.n = n;
         }
 
-        @Override
         int ofRows(int span) {
             return columns ? span : Span.shifted(span, k, n, ROWS);
         }
 
-        @Override
         int ofColumns(int span) {
             return columns ? Span.shifted(span, k, n, COLUMNS) : span;
         }

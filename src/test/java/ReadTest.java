@@ -44,6 +44,15 @@ public final class ReadTest {
         broken("=1 1", 3);
         broken("=a", 1);
         shownAs("  =  1  ", "=1");
+        // What is broken by itself may not pass for the end either.
+        broken("=1 99999999999", 3);
+        broken("=1 \"\t\"", 3);
+        broken("=1 \"a", 3);
+        broken("=1 #X", 3);
+        broken("=1 ABCDEFGHIJKLM", 3);
+        broken("=1 $", 3);
+        broken("=1 A1: ", 3);
+        broken("=1+A1: ", 7);
     }
 
     private static void numbers() {
