@@ -668,7 +668,7 @@ public final class FormulaShaper {
             if (cellStop(at) != NOTHING) {
                 return takesReference();
             }
-            return isLetter(one) ? takesName() : takesMark(one);
+            return isCapital(one) ? takesName() : takesMark(one);
         }
 
         private void take(int kind, int stop) {
@@ -785,14 +785,14 @@ public final class FormulaShaper {
         /** Behind the CELL that stands at from, or NOTHING. */
         private int cellStop(int from) {
             int letter = behindMark(from);
-            if (!isLetter(tape.at(letter))) {
+            if (!isCapital(tape.at(letter))) {
                 return NOTHING;
             }
             int digits = behindMark(letter + 1);
             int stop = digitsStop(digits, ROW_DIGITS);
             long row = valueOf(digits, stop);
             boolean isRow = tape.at(digits) != '0' && row >= 1 && row <= ROWS;
-            return isRow && !isNamePart(tape.at(stop)) ? stop : NOTHING;
+            return isRow && !isBarredBehindCell(tape.at(stop)) ? stop : NOTHING;
         }
 
         private int columnOf(int from) {
@@ -830,12 +830,21 @@ public final class FormulaShaper {
             return one >= '0' && one <= '9';
         }
 
-        private static boolean isLetter(int one) {
+        private static boolean isCapital(int one) {
             return one >= 'A' && one <= 'Z';
         }
 
+        private static boolean isSmallLetter(int one) {
+            return one >= 'a' && one <= 'z';
+        }
+
         private static boolean isNamePart(int one) {
-            return isLetter(one) || isDigit(one) || one == '_';
+            return isCapital(one) || isDigit(one) || one == '_';
+        }
+
+        // Only the letters in a CELL have to be capitals: the one that may not stand behind it is any letter.
+        private static boolean isBarredBehindCell(int one) {
+            return isNamePart(one) || isSmallLetter(one);
         }
     }
 

@@ -8,6 +8,9 @@ public final class ReadTest {
         texts();
         truthsAndErrors();
         wordsAndCells();
+        behindCells();
+        behindCellsWithMarks();
+        everyByteBehindCells();
         operators();
         brackets();
         tables();
@@ -175,6 +178,84 @@ public final class ReadTest {
         broken("=A81:B2", 4);
         broken("=1 A1:", 3);
         broken(":", 0);
+    }
+
+    // Without a $ first it is a WORD where it is no CELL: broken is then what can't stand behind the WORD.
+    private static void behindCells() {
+        for (String small : "a m z".split(" ")) {
+            broken("=A1" + small, 3);
+            broken("=A80" + small, 4);
+            broken("=A1" + small + ":B2", 3);
+            broken("=A1:B2" + small, 4);
+            broken("=A1:B80" + small, 4);
+            broken("=A1 : B2" + small, 6);
+            broken("=A1 " + small, 4);
+            broken("=A1:B2 " + small, 7);
+            broken("=LET(A1" + small + ",1,2)", 7);
+        }
+        for (String part : "A M Z _".split(" ")) {
+            whole("=A1" + part);
+            whole("=A80" + part);
+            broken("=A1" + part + ":B2", 4);
+            broken("=A1:B2" + part, 4);
+            broken("=A1:B80" + part, 4);
+            broken("=A1 : B2" + part, 6);
+            broken("=A1 " + part, 4);
+            whole("=LET(A1" + part + ",1,2)");
+        }
+        for (String digit : "0 5 9".split(" ")) {
+            whole("=A80" + digit);
+            broken("=A80" + digit + ":B2", 5);
+            broken("=A1:B80" + digit, 4);
+            broken("=A80 " + digit, 5);
+            whole("=LET(A80" + digit + ",1,2)");
+            // Here the digit is part of the row.
+            whole("=A1" + digit + ":B2" + digit);
+            broken("=LET(A1" + digit + ",1,2)", 5);
+        }
+    }
+
+    private static void behindCellsWithMarks() {
+        for (String behind : "a m z A M Z _ 0 5 9".split(" ")) {
+            for (String cell : "$A80 $A$80".split(" ")) {
+                broken("=" + cell + behind, 1);
+                broken("= " + cell + behind + ":B2", 2);
+                broken("=1+" + cell + behind + ":$B$2", 3);
+                broken("=A1:" + cell + behind, 4);
+                broken("=$A$1 : " + cell + behind, 8);
+                broken("=LET(" + cell + behind + ",1,2)", 5);
+            }
+            // The A is a WORD here, behind which no $ can stand.
+            broken("=A$80" + behind, 2);
+            broken("=A$80" + behind + ":B2", 2);
+            broken("=A1:A$80" + behind, 4);
+            broken("=LET(A$80" + behind + ",1,2)", 6);
+        }
+        for (String behind : "a z A Z _".split(" ")) {
+            broken("=$A1" + behind, 1);
+            broken("=$A$1" + behind + ":B2", 1);
+            broken("=A$1" + behind, 2);
+            broken("=A1:$B2" + behind, 4);
+            broken("=A1:B$2" + behind, 4);
+            broken("=$A$1:$B$2" + behind, 6);
+        }
+    }
+
+    private static void everyByteBehindCells() {
+        for (char one = 0; one < 256; one++) {
+            boolean isCell = "abcdefghijklmnopqrstuvwxyzABCDEFGHIJKLMNOPQRSTUVWXYZ0123456789_".indexOf(one) < 0;
+            brokenAtCell("=$A80" + one + "?", 1, isCell);
+            brokenAtCell("=$A80" + one + ":B2?", 1, isCell);
+            brokenAtCell("=A1:A80" + one + "?", 4, isCell);
+            brokenAtCell("=A1:$A$80" + one + "?", 4, isCell);
+        }
+    }
+
+    /** The formula is broken in any case: at the place, or, where a CELL stands there, behind it. */
+    private static void brokenAtCell(String formula, int place, boolean isCell) {
+        String found = Checks.readAndShown(formula);
+        CHECKS.same("<" + formula + "> is broken", found.startsWith("broken at "), true);
+        CHECKS.same("<" + formula + "> at the CELL", found.equals("broken at " + place), !isCell);
     }
 
     private static void operators() {
