@@ -4,6 +4,10 @@ final class Checks {
         void run();
     }
 
+    interface Answer {
+        long get();
+    }
+
     private int asked = 0;
     private int wrong = 0;
 
@@ -25,6 +29,15 @@ final class Checks {
             return "nothing";
         } catch (RuntimeException e) {
             return e.getClass().getSimpleName();
+        }
+    }
+
+    /** The answer, or throws. and the name of what is thrown. */
+    static String answer(Answer call) {
+        try {
+            return Long.toString(call.get());
+        } catch (RuntimeException e) {
+            return "throws." + e.getClass().getSimpleName();
         }
     }
 

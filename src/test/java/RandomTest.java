@@ -1,194 +1,195 @@
-import java.util.ArrayList;
 import java.util.List;
 import java.util.Random;
 
 /**
- * Formulas made at random (always the same ones) with what is SHOWN of them known beforehand, moved beside
- * a plain model of a sheet; and bytes at random, of which only the manners are looked at.
+ * Runs of calls and formulas made at random (always the same ones), beside the model. Formulas are made with
+ * what is SHOWN of them known beforehand; many are then spoilt, so that the PLACE is asked for.
  */
 public final class RandomTest {
     private static final Checks CHECKS = new Checks();
     private static final Random RANDOM = new Random(20261115);
+    private static final String BYTES = "=<>&+-*/%(){},;:.$\"#_ A1BZ80TRUELETSUM(,)9!?/Nz\u0000\u007f\u00ff";
+    private static final int[] NUMBERS = {Integer.MIN_VALUE, -101, -100, -1, 0, 1, 2, 3, 4, 7, 8, 9, 25, 26, 27, 79,
+        80, 81, 100, 101, 992, 999, 1000, 1980, 1981, 2000, 2001, Integer.MAX_VALUE - 79, Integer.MAX_VALUE};
 
-    /** A corner of a reference: column and row, and if each has its $. */
-    private record Corner(int column, boolean columnFixed, int row, boolean rowFixed) {
-        String text() {
-            return (columnFixed ? "$" : "") + (char) ('A' + column) + (rowFixed ? "$" : "") + (row + 1);
-        }
+    // A long formula is fed by this many calls of feed and one of end.
+    private static final int MOST_CALLS_AT_ONCE = 52;
+    private static int made = 0;
 
-        Corner with(boolean columns, int number) {
-            return columns ? new Corner(number, columnFixed, row, rowFixed)
-                    : new Corner(column, columnFixed, number, rowFixed);
-        }
-
-        int number(boolean columns) {
-            return columns ? column : row;
-        }
-    }
-
-    /** A text that never moves (no corners), a CELL (one corner) or CELL : CELL (two). */
-    private record Part(String text, List<Corner> corners) {
-        String shown() {
-            if (corners.isEmpty()) {
-                return text;
-            }
-            return corners.size() == 1 ? corners.get(0).text() : corners.get(0).text() + ":" + corners.get(1).text();
-        }
-    }
-
-    private static final Part GONE = new Part("#REF!", List.of());
+    private final StringBuilder written = new StringBuilder();
+    private final StringBuilder shown = new StringBuilder();
 
     public static void main(String[] args) {
         for (int i = 0; i < 4000; i++) {
-            moves();
+            wholeFormula();
         }
         for (int i = 0; i < 20000; i++) {
-            manners();
+            spoiltFormula();
+        }
+        for (int i = 0; i < 400; i++) {
+            calls();
         }
         CHECKS.finish();
     }
 
-    private static void moves() {
-        List<Part> parts = new ArrayList<>();
-        StringBuilder written = new StringBuilder();
-        add(parts, written, "=", "=");
-        expression(parts, written, 2);
-        if (written.length() > 2000 || shown(parts).length() > 1000) {
+    private static String formula(int depth) {
+        RandomTest maker = new RandomTest();
+        maker.same("=");
+        maker.expression(depth);
+        return maker.written.toString();
+    }
+
+    private static void wholeFormula() {
+        RandomTest maker = new RandomTest();
+        maker.same("=");
+        maker.expression(2);
+        String text = maker.written.toString();
+        if (text.length() <= 2000 && maker.shown.length() <= 1000) {
+            CHECKS.same("read " + text, Checks.readAndShown(text), maker.shown.toString());
+            CHECKS.same("shown is whole " + text, Checks.readAndShown(maker.shown.toString()), maker.shown.toString());
+        }
+    }
+
+    /** A whole formula, or one of a few bytes of any kind, with some of its bytes put in, taken out or changed. */
+    private static void spoiltFormula() {
+        StringBuilder text = new StringBuilder(RANDOM.nextBoolean() ? formula(RANDOM.nextInt(3)) : "=");
+        for (int more = RANDOM.nextInt(text.length() == 1 ? 30 : 4); more > 0; more--) {
+            int at = RANDOM.nextInt(text.length() + 1);
+            int until = Math.min(text.length(), at + RANDOM.nextInt(3));
+            String one = String.valueOf(BYTES.charAt(RANDOM.nextInt(BYTES.length())));
+            text.replace(at, until, RANDOM.nextInt(4) == 0 ? "" : one);
+        }
+        if (text.length() > 2000) {
             return;
         }
         FormulaShaper x = new FormulaShaper();
-        Checks.feed(x, written.toString());
-        CHECKS.same("read " + written, x.read(), shown(parts).length());
-        CHECKS.same("shown " + written, Checks.shown(x), shown(parts));
-        CHECKS.same("shown is whole " + written, Checks.readAndShown(shown(parts)), shown(parts));
-        for (int i = 0; i < 3; i++) {
-            parts = moved(x, parts);
+        Model model = new Model();
+        feed(x, model, "=A1:$B2+7");
+        both("read", x::read, model::read);
+        feed(x, model, text.toString());
+        both("read " + text, x::read, model::read);
+        sameState(text.toString(), x, model);
+        both("show after " + text, x::show, model::show);
+        sameState("shown after " + text, x, model);
+    }
+
+    /** As many calls as an object is promised for, with ordinary and with wrong numbers. */
+    private static void calls() {
+        FormulaShaper x = new FormulaShaper();
+        Model model = new Model();
+        boolean isLong = RANDOM.nextInt(3) == 0;
+        made = 0;
+        while (made + MOST_CALLS_AT_ONCE <= 512) {
+            call(x, model, isLong);
+        }
+        while (made < 512) {
+            both("show", x::show, model::show);
         }
     }
 
-    private static List<Part> moved(FormulaShaper x, List<Part> parts) {
+    private static void call(FormulaShaper x, Model model, boolean isLong) {
         boolean columns = RANDOM.nextBoolean();
-        int size = columns ? 26 : 80;
-        int k = RANDOM.nextInt(4) == 0 ? size - 1 - RANDOM.nextInt(5) : RANDOM.nextInt(size);
-        int n = RANDOM.nextInt(3) == 0 ? size - k : 1 + RANDOM.nextInt(Math.min(5, size - k));
-        int down = RANDOM.nextInt(2) == 0 ? RANDOM.nextInt(201) - 100 : RANDOM.nextInt(7) - 3;
-        int right = RANDOM.nextInt(7) - 3;
-        int kind = RANDOM.nextInt(3);
-        List<Part> next = new ArrayList<>();
-        for (Part part : parts) {
-            next.add(kind == 0 ? copied(part, down, right) : shifted(part, columns, lines(size, k, n, kind == 1)));
+        int a = number();
+        int b = number();
+        switch (RANDOM.nextInt(13)) {
+            case 0, 1 -> feed(x, model, isLong ? longFormula() : formula(RANDOM.nextInt(2)));
+            case 2 -> {
+                int five = 0x3D41312B + RANDOM.nextInt(9);
+                both("feed", () -> x.feed(five, a, b, -1, 0), () -> model.feed(five, a, b, -1, 0));
+            }
+            case 3 -> both("end " + a, () -> x.end(a), () -> model.end(a));
+            case 4, 5 -> both("read", x::read, model::read);
+            case 6 -> both("copy " + a + " " + b, () -> x.copy(a, b), () -> model.copy(a, b));
+            case 7 -> {
+                int down = RANDOM.nextInt(7) - 3;
+                int right = RANDOM.nextInt(7) - 3;
+                both("copy " + down + " " + right, () -> x.copy(down, right), () -> model.copy(down, right));
+            }
+            case 8 -> shift(x, model, columns, a, b);
+            case 9 -> {
+                int k = RANDOM.nextInt(columns ? 26 : 80);
+                int n = 1 + RANDOM.nextInt(RANDOM.nextInt(3) == 0 ? (columns ? 26 : 80) - k : 3);
+                shift(x, model, columns, k, n);
+            }
+            case 10 -> both("show", x::show, model::show);
+            case 11 -> both("word " + a, () -> x.word(a), () -> model.word(a));
+            default -> {
+                int side = RANDOM.nextInt(6) - 1;
+                both("reference " + a + " " + side, () -> x.reference(a, side), () -> model.reference(a, side));
+                both("count " + side, () -> x.count(side), () -> model.count(side));
+            }
         }
-        String call = shown(parts) + (kind == 0 ? " copy(" + down + ", " + right + ")"
-                : (kind == 1 ? " insert(" : " remove(") + columns + ", " + k + ", " + n + ")");
-        int length = shown(next).length();
-        if (length > 1000) {
-            CHECKS.throwsOnly(call, IndexOutOfBoundsException.class, () -> move(x, kind, columns, k, n, down, right));
-            next = parts;
+    }
+
+    private static int number() {
+        return RANDOM.nextInt(3) == 0 ? NUMBERS[RANDOM.nextInt(NUMBERS.length)] : RANDOM.nextInt(31) - 3;
+    }
+
+    private static void shift(FormulaShaper x, Model model, boolean columns, int k, int n) {
+        String call = columns + " " + k + " " + n;
+        if (RANDOM.nextBoolean()) {
+            both("insert " + call, () -> x.insert(columns, k, n), () -> model.insert(columns, k, n));
         } else {
-            CHECKS.same(call, move(x, kind, columns, k, n, down, right), length);
+            both("remove " + call, () -> x.remove(columns, k, n), () -> model.remove(columns, k, n));
         }
-        CHECKS.same(call + " shown", Checks.shown(x), shown(next));
-        CHECKS.same(call + " references", Checks.references(x), references(next));
-        return next;
     }
 
-    private static int move(FormulaShaper x, int kind, boolean columns, int k, int n, int down, int right) {
-        if (kind == 0) {
-            return x.copy(down, right);
-        }
-        return kind == 1 ? x.insert(columns, k, n) : x.remove(columns, k, n);
-    }
-
-    private static Part copied(Part part, int down, int right) {
-        List<Corner> corners = new ArrayList<>();
-        for (Corner c : part.corners()) {
-            int column = c.columnFixed() ? c.column() : c.column() + right;
-            int row = c.rowFixed() ? c.row() : c.row() + down;
-            if (column < 0 || column > 25 || row < 0 || row > 79) {
-                return GONE;
-            }
-            corners.add(new Corner(column, c.columnFixed(), row, c.rowFixed()));
-        }
-        return new Part(part.text(), inOrder(corners));
-    }
-
-    private static List<Corner> inOrder(List<Corner> corners) {
-        if (corners.size() < 2) {
-            return corners;
-        }
-        Corner a = corners.get(0);
-        Corner b = corners.get(1);
-        Corner byColumn = a.column() <= b.column() ? a : b;
-        Corner byRow = a.row() <= b.row() ? a : b;
-        Corner otherColumn = byColumn == a ? b : a;
-        Corner otherRow = byRow == a ? b : a;
-        return List.of(new Corner(byColumn.column(), byColumn.columnFixed(), byRow.row(), byRow.rowFixed()),
-                new Corner(otherColumn.column(), otherColumn.columnFixed(), otherRow.row(), otherRow.rowFixed()));
-    }
-
-    /** The lines of the sheet afterwards, each with the number it had, -1 for a new one. */
-    private static List<Integer> lines(int size, int k, int n, boolean in) {
-        List<Integer> lines = new ArrayList<>();
-        for (int i = 0; i < size; i++) {
-            for (int j = 0; in && i == k && j < n; j++) {
-                lines.add(-1);
-            }
-            if (in || i < k || i >= k + n) {
-                lines.add(i);
-            }
-        }
-        return lines.subList(0, Math.min(size, lines.size()));
-    }
-
-    private static Part shifted(Part part, boolean columns, List<Integer> lines) {
-        if (part.corners().isEmpty()) {
-            return part;
-        }
-        Corner a = part.corners().get(0);
-        Corner b = part.corners().get(part.corners().size() - 1);
-        List<Integer> left = new ArrayList<>();
-        for (int i = 0; i < lines.size(); i++) {
-            if (lines.get(i) >= a.number(columns) && lines.get(i) <= b.number(columns)) {
-                left.add(i);
-            }
-        }
-        if (left.isEmpty()) {
-            return GONE;
-        }
-        Corner first = a.with(columns, left.get(0));
-        Corner last = b.with(columns, left.get(left.size() - 1));
-        return new Part("", part.corners().size() == 1 ? List.of(first) : List.of(first, last));
-    }
-
-    private static String shown(List<Part> parts) {
-        StringBuilder text = new StringBuilder();
-        for (Part part : parts) {
-            text.append(part.shown());
+    /** One whose length SHOWN is about the greatest that there is room for. */
+    private static String longFormula() {
+        StringBuilder text = new StringBuilder("=A9");
+        int length = 985 + RANDOM.nextInt(20);
+        while (text.length() < length) {
+            String[] more = {"+A9", "+$A9:B10", "+1", "&\" \"", "%"};
+            text.append(more[RANDOM.nextInt(more.length)]);
         }
         return text.toString();
     }
 
-    private static String references(List<Part> parts) {
-        StringBuilder text = new StringBuilder();
-        for (Part part : parts) {
-            if (!part.corners().isEmpty()) {
-                Corner a = part.corners().get(0);
-                Corner b = part.corners().get(part.corners().size() - 1);
-                text.append(text.length() == 0 ? "" : " ");
-                text.append(a.row() + "," + a.column() + "," + b.row() + "," + b.column());
-            }
-        }
-        return text.toString();
+    private static void both(String call, Checks.Answer of, Checks.Answer due) {
+        made++;
+        CHECKS.same(call, Checks.answer(of), Checks.answer(due));
     }
 
-    private static void add(List<Part> parts, StringBuilder written, String text, String shown) {
-        blanks(written);
+    private static void feed(FormulaShaper x, Model model, String text) {
+        int due = model.count(0) + text.length();
+        for (int i = 0; i < text.length(); i += 20) {
+            int[] five = new int[5];
+            for (int j = 0; j < 20; j++) {
+                five[j / 4] = five[j / 4] << 8 | (i + j < text.length() ? text.charAt(i + j) & 255 : 0);
+            }
+            both("feed", () -> x.feed(five[0], five[1], five[2], five[3], five[4]),
+                    () -> model.feed(five[0], five[1], five[2], five[3], five[4]));
+        }
+        both("end " + due, () -> x.end(due), () -> model.end(due));
+    }
+
+    private static void sameState(String what, FormulaShaper x, Model model) {
+        for (int i = 0; i < 4; i++) {
+            int one = i;
+            both(what + ": count " + i, () -> x.count(one), () -> model.count(one));
+        }
+        for (int i = 0; i < model.count(1); i += 8) {
+            int from = i;
+            both(what + ": word " + i, () -> x.word(from), () -> model.word(from));
+        }
+        for (int i = 0; i < 4 * model.count(3); i++) {
+            int one = i;
+            both(what + ": reference " + i / 4, () -> x.reference(one / 4, one % 4), () -> model.reference(one / 4, one % 4));
+        }
+    }
+
+    private void add(String text, String due) {
+        blanks();
         written.append(text);
-        blanks(written);
-        parts.add(new Part(shown, List.of()));
+        blanks();
+        shown.append(due);
     }
 
-    private static void blanks(StringBuilder written) {
+    private void same(String text) {
+        add(text, text);
+    }
+
+    private void blanks() {
         if (RANDOM.nextInt(8) == 0) {
             written.append(" ".repeat(1 + RANDOM.nextInt(2)));
         }
@@ -199,117 +200,75 @@ public final class RandomTest {
         return all[RANDOM.nextInt(all.length)];
     }
 
-    private static void same(List<Part> parts, StringBuilder written, String text) {
-        add(parts, written, text, text);
-    }
-
-    private static void expression(List<Part> parts, StringBuilder written, int depth) {
+    private void expression(int depth) {
         for (int more = RANDOM.nextInt(3); more >= 0; more--) {
             for (int signs = RANDOM.nextInt(6); signs > 4; signs--) {
-                same(parts, written, oneOf("+ -"));
+                same(oneOf("+ -"));
             }
-            atom(parts, written, depth);
+            atom(depth);
             if (RANDOM.nextInt(8) == 0) {
-                same(parts, written, "%");
+                same("%");
             }
             if (more > 0) {
-                same(parts, written, oneOf("= <> <= >= < > & + - * /"));
+                same(oneOf("= <> <= >= < > & + - * /"));
             }
         }
     }
 
-    private static void atom(List<Part> parts, StringBuilder written, int depth) {
+    private void atom(int depth) {
         int kind = RANDOM.nextInt(depth > 0 ? 12 : 7);
         if (kind < 4) {
-            cells(parts, written);
+            cells();
         } else if (kind == 4) {
             String[] numbers = oneOf("0|0 007|7 1.50|1.5 0.0|0 90000000000.0|90000000000 00.05|0.05").split("\\|");
-            add(parts, written, numbers[0], numbers[1]);
+            add(numbers[0], numbers[1]);
         } else if (kind == 5) {
-            same(parts, written, RANDOM.nextBoolean() ? "\" A1 \"\"\"" : oneOf("TRUE FALSE #N/A #REF! #DIV/0!"));
+            same(RANDOM.nextBoolean() ? "\" A1 \"\"\"" : oneOf("TRUE FALSE #N/A #REF! #DIV/0!"));
         } else if (kind == 6) {
-            same(parts, written, oneOf("X A81 A0 SUM TRUEST Z80_ AA1 ABCDEFGHIJKL"));
+            same(oneOf("X A81 A0 SUM TRUEST Z80_ AA1 ABCDEFGHIJKL"));
         } else {
-            bracket(parts, written, depth, kind);
+            bracket(depth, kind);
         }
     }
 
-    private static void bracket(List<Part> parts, StringBuilder written, int depth, int kind) {
+    private void bracket(int depth, int kind) {
         if (kind == 7) {
             for (String thing : oneOf("{|1|} {|-|2|,|TRUE|;|#N/A|,|3|}").split("\\|")) {
-                same(parts, written, thing);
+                same(thing);
             }
             return;
         }
-        int most = 1;
-        if (kind == 8) {
-            for (String thing : oneOf("LET|(|X|,|1|, LAMBDA|( LAMBDA|(|X|,|SUM|,").split("\\|")) {
-                same(parts, written, thing);
-            }
-        } else {
-            most = kind == 9 ? 1 : 2;
-            String name = kind == 9 ? oneOf("ABS SUM FOO") : oneOf("ROUND IF SUM FOO CHOOSE");
-            if (kind != 11) {
-                same(parts, written, name);
-            } else {
-                most = 1;
-            }
-            same(parts, written, "(");
+        String begin = switch (kind) {
+            case 8 -> oneOf("LET|(|X|,|1|, LAMBDA|( LAMBDA|(|X|,|SUM|,");
+            case 9 -> oneOf("ABS|( SUM|( FOO|(");
+            case 10 -> oneOf("ROUND|( IF|( SUM|( FOO|( CHOOSE|(");
+            default -> "(";
+        };
+        for (String thing : begin.split("\\|")) {
+            same(thing);
         }
-        for (int n = 1; n <= most; n++) {
-            expression(parts, written, depth - 1);
-            same(parts, written, n < most ? "," : ")");
+        if (kind == 10) {
+            expression(depth - 1);
+            same(",");
         }
+        expression(depth - 1);
+        same(")");
     }
 
-    private static Corner corner() {
+    private static Model.Corner corner() {
         int row = RANDOM.nextInt(3) == 0 ? RANDOM.nextInt(80) : (RANDOM.nextInt(14) + 74) % 80;
-        return new Corner(RANDOM.nextInt(26), RANDOM.nextInt(3) == 0, row, RANDOM.nextInt(3) == 0);
+        return new Model.Corner(RANDOM.nextInt(26), RANDOM.nextInt(3) == 0, row, RANDOM.nextInt(3) == 0);
     }
 
-    private static void cells(List<Part> parts, StringBuilder written) {
-        Corner a = corner();
-        blanks(written);
-        written.append(a.text());
-        List<Corner> corners = List.of(a);
+    private void cells() {
+        Model.Corner a = corner();
         if (RANDOM.nextBoolean()) {
-            Corner b = corner();
-            blanks(written);
-            written.append(":");
-            blanks(written);
-            written.append(b.text());
-            corners = inOrder(List.of(a, b));
+            add(a.text(), a.text());
+            return;
         }
-        blanks(written);
-        parts.add(new Part("", corners));
-    }
-
-    /** Whatever the tape holds, read() does one of three things, and the formula that was stays if it throws. */
-    private static void manners() {
-        String some = "=<>&+-*/%(){},;:.$\"#_ A1BZ80TRUELETSUM(,)9!?/Nz\u0000\u007f\u00ff";
-        StringBuilder text = new StringBuilder(RANDOM.nextInt(10) == 0 ? "" : "=");
-        for (int more = RANDOM.nextInt(30); more > 0; more--) {
-            text.append(some.charAt(RANDOM.nextInt(some.length())));
-        }
-        FormulaShaper x = Checks.reading("=A1:$B2+7");
-        Checks.feed(x, text.toString());
-        String thrown = Checks.thrownBy(() -> x.read());
-        int place = x.count(2);
-        CHECKS.same("tape after read of " + text, x.count(0), 0);
-        if (thrown.equals("nothing")) {
-            CHECKS.same("place of the whole " + text, place, -1);
-            CHECKS.same("round trip of " + text, Checks.readAndShown(Checks.shown(x)), Checks.shown(x));
-        } else {
-            CHECKS.same("thrown by read of " + text, thrown, "UnsupportedOperationException");
-            CHECKS.same("place in " + text, place >= 0 && place <= text.length(), true);
-            CHECKS.same("what stays after " + text, Checks.shown(x), "=A1:$B2+7");
-            // Nothing before the PLACE may be what breaks it; but a small letter makes a WORD of a CELL before it.
-            if (place < text.length() && text.charAt(place) == 'z') {
-                return;
-            }
-            Checks.feed(x, text.substring(0, place));
-            Checks.thrownBy(() -> x.read());
-            CHECKS.same("place in what is before " + text, x.count(2) == -1 || x.count(2) == place, true);
-        }
+        Model.Corner b = corner();
+        add(a.text(), "");
+        add(":", "");
+        add(b.text(), Model.Part.cells(List.of(a, b)).shown());
     }
 }

@@ -14,7 +14,11 @@ public final class TapeTest {
         end();
         show();
         word();
+        fullResult();
+        resultStays();
         count();
+        places();
+        lastCalls();
         face();
         CHECKS.finish();
     }
@@ -108,6 +112,84 @@ public final class TapeTest {
         CHECKS.throwsOnly("word(-1)", IndexOutOfBoundsException.class, () -> x.word(-1));
         CHECKS.throwsOnly("word(MAX)", IndexOutOfBoundsException.class, () -> x.word(Integer.MAX_VALUE));
         CHECKS.throwsOnly("word(MIN)", IndexOutOfBoundsException.class, () -> x.word(Integer.MIN_VALUE));
+    }
+
+    /** The longest result: the last of its bytes, and the first that is none. */
+    private static void fullResult() {
+        FormulaShaper x = Checks.reading("=\"" + "abcdefgh".repeat(124) + "xyz12\"");
+        CHECKS.same("a full result", x.show(), 1000);
+        CHECKS.same("its bytes", x.count(1), 1000);
+        CHECKS.same("its last eight", x.word(992), 0x676878797A313222L);
+        CHECKS.same("its last seven", x.word(993), 0x6878797A31322200L);
+        CHECKS.same("its last one", x.word(999), 0x2200000000000000L);
+        CHECKS.throwsOnly("word(1000)", IndexOutOfBoundsException.class, () -> x.word(1000));
+        CHECKS.throwsOnly("word(1999)", IndexOutOfBoundsException.class, () -> x.word(1999));
+        Checks.feed(x, "=1");
+        x.read();
+        x.show();
+        CHECKS.same("the last byte of the shortest", x.word(1), 0x3100000000000000L);
+        CHECKS.throwsOnly("word(2) of the shortest", IndexOutOfBoundsException.class, () -> x.word(2));
+        CHECKS.throwsOnly("word(999) of the shortest", IndexOutOfBoundsException.class, () -> x.word(999));
+    }
+
+    /** The result stays so until the next show(), whatever is called. */
+    private static void resultStays() {
+        FormulaShaper x = Checks.reading("=B2");
+        x.show();
+        Checks.Call[] calls = {() -> x.feed(0x3D432420, 0, 0, 0, 0), () -> x.end(2), () -> x.read(), () -> x.copy(1, 0),
+            () -> x.insert(false, 0, 1), () -> x.insert(true, 0, 1), () -> x.remove(false, 0, 1),
+            () -> x.remove(true, 0, 1), () -> x.reference(0, 0), () -> x.word(1), () -> x.count(3), () -> x.copy(-100, 0),
+            () -> x.copy(101, 0), () -> x.read(), () -> x.word(3), () -> x.count(4)};
+        for (int i = 0; i < calls.length; i++) {
+            Checks.thrownBy(calls[i]);
+            CHECKS.same("length of the result after call " + i, x.count(1), 3);
+            CHECKS.same("the result after call " + i, x.word(0), 0x3D42320000000000L);
+        }
+        CHECKS.same("the next show", x.show(), 2);
+        CHECKS.same("the result of the next show", x.word(0), 0x3D43000000000000L);
+    }
+
+    /** PLACE is that of the latest read: no other call tells one or takes it back. */
+    private static void places() {
+        FormulaShaper x = new FormulaShaper();
+        Checks.feed(x, "=1");
+        CHECKS.same("place before a read", x.count(2), -1);
+        x.read();
+        CHECKS.same("place of a whole one", x.count(2), -1);
+        Checks.feed(x, "=A1+");
+        CHECKS.same("place before the next read", x.count(2), -1);
+        CHECKS.throwsOnly("a broken one", UnsupportedOperationException.class, () -> x.read());
+        CHECKS.same("place of a broken one", x.count(2), 4);
+        Checks.Call[] calls = {() -> x.feed(0, 0, 0, 0, 0), () -> x.end(0), () -> x.copy(0, 0), () -> x.copy(101, 0),
+            () -> x.insert(true, 0, 1), () -> x.remove(true, 0, 1), () -> x.show(), () -> x.reference(0, 0),
+            () -> x.word(0), () -> x.count(0), () -> x.count(4), () -> x.end(1)};
+        for (int i = 0; i < calls.length; i++) {
+            Checks.thrownBy(calls[i]);
+            CHECKS.same("place after call " + i, x.count(2), 4);
+        }
+        CHECKS.throwsOnly("an empty one", UnsupportedOperationException.class, () -> x.read());
+        CHECKS.same("place of an empty one", x.count(2), 0);
+        Checks.feed(x, "=2");
+        x.read();
+        CHECKS.same("place of the whole one behind it", x.count(2), -1);
+    }
+
+    /** An object is used for at most 512 calls: the last ones answer as the first. */
+    private static void lastCalls() {
+        FormulaShaper x = new FormulaShaper();
+        for (int i = 0; i < 64; i++) {
+            int bytes = 0x3D41312B + (i % 25 << 16);
+            int column = i % 25;
+            CHECKS.same("feed in turn " + i, x.feed(bytes, 0x5A383000, 0, 0, 0), 20);
+            CHECKS.same("end in turn " + i, x.end(7), 7);
+            CHECKS.same("read in turn " + i, x.read(), 7);
+            CHECKS.same("copy in turn " + i, x.copy(-1 + i % 2, 1), i % 2 == 0 ? 12 : 9);
+            CHECKS.same("count in turn " + i, x.count(3), i % 2);
+            CHECKS.same("reference in turn " + i, Checks.answer(() -> x.reference(0, 1)),
+                    i % 2 == 0 ? "throws.NoSuchElementException" : String.valueOf(column + 1));
+            CHECKS.same("show in turn " + i, x.show(), i % 2 == 0 ? 12 : 9);
+            CHECKS.same("word in turn " + i, x.word(i % 2 == 0 ? 11 : 8), 0x2100000000000000L);
+        }
     }
 
     private static void count() {
