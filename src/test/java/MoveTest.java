@@ -1,4 +1,5 @@
 import java.util.NoSuchElementException;
+import java.util.function.ToIntFunction;
 
 /** Promises 5, 6, 7 and 9: references moved, and told. */
 public final class MoveTest {
@@ -11,6 +12,7 @@ public final class MoveTest {
         reference();
         refused();
         room();
+        roomOfEachMove();
         CHECKS.finish();
     }
 
@@ -179,5 +181,29 @@ public final class MoveTest {
         CHECKS.same("1000 bytes again", edge.insert(false, 0, 1), 1000);
         FormulaShaper beyond = Checks.reading("=A9+" + "1+".repeat(497) + "12");
         CHECKS.throwsOnly("1001 bytes", IndexOutOfBoundsException.class, () -> beyond.insert(false, 0, 1));
+    }
+
+    /** A move that makes it longer by each of a few bytes: 1000 bytes SHOWN are allowed, 1001 are not. */
+    private static void roomOfEachMove() {
+        roomFor("A9", "A10", x -> x.copy(1, 0));
+        roomFor("A1", "#REF!", x -> x.copy(0, -1));
+        roomFor("A9:B9", "A10:B10", x -> x.copy(1, 0));
+        roomFor("A80", "#REF!", x -> x.copy(1, 0));
+        roomFor("$A$9", "$A$10", x -> x.insert(false, 0, 1));
+        roomFor("A1:B9", "A1:B10", x -> x.insert(false, 8, 1));
+        roomFor("Z1", "#REF!", x -> x.insert(true, 25, 1));
+        roomFor("A1", "#REF!", x -> x.remove(false, 0, 1));
+        roomFor("A1", "#REF!", x -> x.remove(true, 0, 26));
+    }
+
+    private static void roomFor(String before, String after, ToIntFunction<FormulaShaper> move) {
+        for (int length = 998; length <= 1000 + after.length() - before.length(); length++) {
+            String rest = "+1" + "%".repeat(length - 3 - after.length());
+            FormulaShaper x = Checks.reading("=" + before + rest);
+            String due = length <= 1000 ? String.valueOf(length) : "throws.IndexOutOfBoundsException";
+            CHECKS.same(before + " to " + after + ", " + length, Checks.answer(() -> move.applyAsInt(x)), due);
+            CHECKS.same(before + " to " + after + ", " + length + " shown", Checks.shown(x),
+                    "=" + (length <= 1000 ? after : before) + rest);
+        }
     }
 }

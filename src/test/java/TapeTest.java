@@ -58,11 +58,15 @@ public final class TapeTest {
         }
         CHECKS.throwsOnly("feed beyond 2000", IndexOutOfBoundsException.class, () -> full.feed(0, 0, 0, 0, 0));
         CHECKS.same("nothing came", full.count(0), 2000);
+        CHECKS.same("end(2000) of a full tape", full.end(2000), 2000);
+        CHECKS.throwsOnly("end(2001) of a full tape", IllegalArgumentException.class, () -> full.end(2001));
         full.end(1981);
         CHECKS.throwsOnly("feed to 2001", IndexOutOfBoundsException.class, () -> full.feed(0, 0, 0, 0, 0));
         CHECKS.same("nothing came to 1981", full.count(0), 1981);
         full.end(1980);
         CHECKS.same("feed to 2000", full.feed(0, 0, 0, 0, 0), 2000);
+        CHECKS.same("end(0) of a full tape", full.end(0), 0);
+        CHECKS.same("feed to an empty tape", full.feed(-1, -1, -1, -1, -1), 20);
     }
 
     private static void end() {
